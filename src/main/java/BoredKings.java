@@ -340,10 +340,7 @@ public final class BoredKings {
             }
         }
         int all = power(10, n);
-        int common = greatestDivisor(all, good);
-        if (common < 1) {
-            return part == 0 ? good : all;
-        }
+        int common = Math.max(1, greatestDivisor(all, good));
         return part == 0 ? good / common : all / common;
     }
 
@@ -481,7 +478,7 @@ public final class BoredKings {
         return place < 0 ? place + laid.persons : place;
     }
 
-    /** The first day from now on which the bell goes, of those that are looked at up to the farthest; one more: none. */
+    /** The first day from now on which the bell goes, up to the farthest; one more: none. */
     private int firstBell() {
         reign.start(now);
         for (int d = 0; d <= FARTHEST; d++) {

@@ -13,7 +13,9 @@ public final class ActsTest {
         arrange();
         arrangeNot();
         undo();
+        undoInterest();
         undoLastEight();
+        undoOfMany();
         keepAndBack();
         keptAndUndone();
         count();
@@ -220,6 +222,37 @@ public final class ActsTest {
         T.due("undo() of hide", other.undo(), 0);
         T.due("seen is left", other.count(4), 1);
         T.due("kept is left", other.count(6), 1);
+    }
+
+    private static void undoInterest() {
+        BoredKings x = Due.court("p0,1,60;t0,1,8;t1,1,8;t2,1,8;f1;");
+        x.pass(1);
+        x.pass(1);
+        T.due("interest", x.king(0, 1), 24);
+        x.keep();
+        x.undo();
+        T.due("interest when undone", x.king(0, 1), 16);
+        x.undo();
+        T.due("interest when all is undone", x.king(0, 1), 8);
+        x.back();
+        T.due("interest as kept", x.king(0, 1), 24);
+        T.due("reigned as kept", x.person(0, 4), 2);
+    }
+
+    private static void undoOfMany() {
+        BoredKings x = new BoredKings();
+        for (int n = 1; n <= 40; n++) {
+            x.pass(1 + n % 3);
+            int day = x.count(2);
+            x.pass(5);
+            T.due("undo() behind " + n, x.undo(), Math.min(n, 7));
+            T.due("the day behind " + n, x.count(2), day);
+        }
+        for (int n = 0; n < 7; n++) {
+            x.undo();
+        }
+        T.due("undone can be", x.count(5), 0);
+        T.due("the day", x.count(2), 80 - 14);
     }
 
     private static void undoLastEight() {

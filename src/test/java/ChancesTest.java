@@ -80,6 +80,20 @@ public final class ChancesTest {
         BoredKings kinds = Due.court("p1,0,4;p2,0,11;p3,0,9;p0,0,60;t0,1,9;t1,2,9;t2,4,9;t3,8,9;");
         kinds.seen(1, 1);
         tastes(kinds, 0, 16, 1);
+        BoredKings quiet = Due.court("p0,1,2;p0,1,9;t0,1,1;f1;");
+        quiet.seen(0, 1);
+        tastes(quiet, 0, 32, 0);
+        quiet.pass(1);
+        tastes(quiet, 0, 32, 0);
+        BoredKings unsure = Due.court("p0,1,1;p0,1,9;t0,1,1;t1,2,1;f1;");
+        unsure.seen(1, 1);
+        tastes(unsure, 0, 16, 1);
+        BoredKings forgotten = Due.court("p0,1,9;p0,1,9;");
+        forgotten.seen(0, 0);
+        forgotten.seen(1, 0);
+        forgotten.forget();
+        forgotten.seen(0, 0);
+        tastes(forgotten, 0, 32, 0);
         BoredKings again = Due.court("p0,1,1;p0,2,1;t0,1,1;t1,2,1;t2,4,1;");
         again.seen(1, 3);
         tastes(again, 0, 20, 2);
@@ -153,6 +167,17 @@ public final class ChancesTest {
         lasts(curious, new int[] {1, 1, 1, 10}, 1, 1);
         lasts(curious, new int[] {1, 2, 1, 10}, 0, 1);
         lasts(curious, new int[] {1, 3, 1, 10}, 0, 1);
+        curious.hide(0);
+        curious.content(0);
+        lasts(curious, new int[] {1, 1, 1, 10}, 1, 1);
+        BoredKings lately = Due.court("p2,0,2;t0,1,1;");
+        lately.hide(0);
+        lasts(lately, new int[] {1, 1, 1, 10}, 0, 1);
+        BoredKings another = Due.court("p2,0,4;t0,1,1;t1,1,1;f9;");
+        lasts(another, new int[] {2, 1, 1, 10}, 1, 1);
+        another.hide(0);
+        another.arrange(0, 2, 1);
+        lasts(another, new int[] {1, 1, 1, 10}, 0, 1);
         BoredKings behind = Due.court("p2,0,4;t0,1,1;t0,3,1;");
         lasts(behind, new int[] {1, 3, 1, 0}, 0, 1);
         behind.hide(0);
@@ -215,8 +240,12 @@ public final class ChancesTest {
         dulls("p0,1,9;t12,1,9;t25,1,9;", 14, 26);
         BoredKings x = Due.court("p0,1,9;t0,1,9;t40,1,9;");
         x.pass(1);
+        x.king(40, 1);
         T.due("dull(0) a day later", x.dull(0), 39);
         T.due("dull(1) a day later", x.dull(1), 0);
+        BoredKings other = Due.court("p0,1,9;p0,0,9;t0,1,9;t10,1,9;");
+        other.king(40, 1);
+        T.due("dull(1) behind another question", other.dull(1), 1);
         int[] wrong = {-1, 2, Integer.MIN_VALUE, Integer.MAX_VALUE};
         for (int what : wrong) {
             T.due("dull(" + what + ")", x.dull(what), BAD);
@@ -229,7 +258,7 @@ public final class ChancesTest {
         T.due("year(" + z + ", " + n + ", 1) of " + text, x.year(z, n, 1), who);
     }
 
-    /** By hand: DRAW by 0 on day 0 is 0 (topic 0, strength 1), on days 1 to 3 none; by 2 on day 0 it is 29766 (1, 4). */
+    /** Apart from the class: DRAW by 0 on day 0 is 0 (topic 0, strength 1), on days 1 to 3 none; by 2 on day 0 it is 29766 (1, 4). */
     private static void year() {
         years("p0,1,1;p0,0,60;", 0, 1, 1, 1);
         years("p0,1,2;p0,0,60;", 0, 1, 0, 0);
@@ -242,6 +271,17 @@ public final class ChancesTest {
         years("p2,2,8;p0,0,60;t0,2,1;", 2, 1, 0, 0);
         years("p2,2,8;p0,0,60;t0,1,1;", 2, 1, 1, 1);
         years("p0,0,1;p0,0,1;", 9999, 60, 0, 0);
+        String five = "p0,31,1;".repeat(5);
+        years(five, 0, 60, 18, 3);
+        years(five, 9999, 60, 22, 2);
+        years(five, 2, 4, 2, 2);
+        years(five, 2, 5, 3, 3);
+        years(five, 77, 59, 19, 4);
+        years(five, 77, 60, 20, 0);
+        years("p0,16,1;", 77, 60, 6, 0);
+        years("p0,16,1;", 77, 59, 5, 0);
+        years("p0,8,1;", 0, 60, 6, 0);
+        years("p0,8,9;f9;", 0, 60, 2, 0);
         BoredKings now = Due.court("p0,2,5;p0,0,60;t0,2,2;");
         now.pass(1);
         T.due("with the interest there is", now.year(2, 1, 0), 1);

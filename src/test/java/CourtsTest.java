@@ -173,6 +173,10 @@ public final class CourtsTest {
         T.same("ahead of lay()", Due.state(x), "2 3 2 1 1 3 2 28 2 p1 2 p0 0 t0 1 2 0 t1 1 2 1 t9 1 1 0 k1 0 f-4");
         T.due("lay() again", x.lay(), 2);
         T.same("laid again", Due.state(x), "2 2 0 0 0 0 0 28 2 p0 0 p1 0 t0 1 2 0 t1 1 2 0 k0 2 f-4");
+        x.pass(1);
+        T.due("interest ahead of lay()", x.king(0, 1), 3);
+        T.due("lay() once more", x.lay(), 2);
+        T.due("interest when laid once more", x.king(0, 1), 2);
         T.due("undo() when laid again", x.undo(), NO);
         T.due("back() when laid again", x.back(), NO);
         T.due("interest when laid again", x.king(1, 1), 3);

@@ -66,6 +66,10 @@ public final class ReignsTest {
         T.due("who reigns now, not the next", Due.court("p0,1,9;p0,2,1;t0,2,9;t1,1,9;").hides(2), 2);
         T.due("curious: what is shown then counts", Due.court("p2,0,4;t0,1,1;t0,3,1;t0,2,1;").hides(1), 1);
         T.due("curious: hiding the first helps not", Due.court("p2,0,2;t0,1,1;t0,1,1;").hides(1), 3);
+        T.due("sleepy", Due.court("p3,1,9;t1,1,9;t2,1,9;t3,1,9;").hides(4), 5);
+        BoredKings sleepy = Due.court("p3,1,9;t4,1,9;t5,1,9;t6,1,9;");
+        sleepy.pass(3);
+        T.due("sleepy, days later", sleepy.hides(4), 5);
         BoredKings past = Due.court("p0,1,9;t0,1,8;t1,1,5;t2,1,5;f2;");
         T.due("ahead of the first", past.hides(2), 1);
         past.pass(1);
@@ -174,6 +178,14 @@ public final class ReignsTest {
     private static void orderOfSeveral() {
         orders(Due.court("p0,0,1;p0,0,1;p0,0,1;p0,0,1;p0,0,1;p0,0,1;"), 40, 0, 0, 1, 2, 3, 4, 5);
         orders(Due.court("p0,1,1;p0,1,1;p0,1,1;p0,1,1;p0,1,1;p0,0,1;t0,1,1;"), 40, 0, 5, 0, 1, 2, 3, 4);
+        BoredKings last = Due.court("p0,31,1;p0,30,1;p0,2,1;p0,17,1;p0,9,1;p0,13,1;t0,16,1;t1,14,1;t2,22,1;t3,28,1;"
+            + "t4,14,1;t5,23,1;t6,28,1;t7,2,1;t8,1,1;");
+        orders(last, 9, 4, 5, 4, 3, 2, 1, 0);
+        BoredKings zero = Due.court("p0,0,9;p0,1,2;t0,1,1;t0,2,9;f1;");
+        zero.arrange(0, 8, 9);
+        orders(zero, 1, 0, 0, 1);
+        BoredKings other = Due.court("p0,2,1;p0,1,2;t0,3,1;f1;");
+        orders(other, 1, 0, 1, 0);
         BoredKings interested = Due.court("p0,1,4;p0,1,4;t0,1,3;t1,1,1;f1;");
         interested.pass(1);
         orders(interested, 1, 0, 1, 0);
