@@ -267,7 +267,8 @@ public final class BoredKings {
                 least = bells;
                 reign.copyLine(bestOrder);
             }
-            if (!reign.lineUpNext()) {
+            // whoever has not come to the throne may stand anywhere: all those orders are as this one
+            if (!reign.lineUpNext(bells + 1)) {
                 break;
             }
         }
@@ -810,8 +811,8 @@ public final class BoredKings {
         private int size;
 
         Shelf(int most) {
-            places = new Moment[most];
-            for (int i = 0; i < most; i++) {
+            places = new Moment[Math.max(most, 1)];
+            for (int i = 0; i < places.length; i++) {
                 places[i] = new Moment();
             }
         }
@@ -1075,9 +1076,10 @@ public final class BoredKings {
             }
         }
 
-        /** The next order behind the one they are lined up in, the lowest first; false behind the last. */
-        boolean lineUpNext() {
+        /** The next order, the lowest first, in which the first so many do not all stand as now; false behind the last. */
+        boolean lineUpNext(int fixed) {
             int last = Math.min(court.persons, MOST_PERSONS) - 1;
+            sortDown(fixed, last);
             int from = last - 1;
             while (from >= 0 && line[from] > line[from + 1]) {
                 from--;
@@ -1094,6 +1096,17 @@ public final class BoredKings {
                 swap(low, high);
             }
             return true;
+        }
+
+        /** The last order of those who stand there, so that the next one is none of theirs. */
+        private void sortDown(int first, int last) {
+            for (int i = Math.max(first, 0); i < last; i++) {
+                for (int j = i + 1; j <= last; j++) {
+                    if (line[j] > line[i]) {
+                        swap(i, j);
+                    }
+                }
+            }
         }
 
         private void swap(int a, int b) {

@@ -16,6 +16,7 @@ public final class ActsTest {
         undoInterest();
         undoLastEight();
         undoOfMany();
+        undoAllOfMany();
         keepAndBack();
         keptAndUndone();
         count();
@@ -237,6 +238,20 @@ public final class ActsTest {
         x.back();
         T.due("interest as kept", x.king(0, 1), 24);
         T.due("reigned as kept", x.person(0, 4), 2);
+    }
+
+    private static void undoAllOfMany() {
+        for (int acts = 8; acts <= 18; acts++) {
+            BoredKings x = new BoredKings();
+            for (int n = 0; n < acts; n++) {
+                x.pass(1);
+            }
+            for (int left = 7; left >= 0; left--) {
+                T.due("undo() of " + acts, x.undo(), left);
+            }
+            T.due("undo() of " + acts, x.undo(), NO);
+            T.due("the day", x.count(2), acts - 8);
+        }
     }
 
     private static void undoOfMany() {

@@ -134,6 +134,7 @@ public final class ReignsTest {
         raise("p2,2,11;p0,0,60;", 1, 1, 1);
         raise("p2,0,4;p0,0,60;t0,1,1;", 1, 1, 1);
         raise("p2,1,14;p0,0,60;t0,1,1;", 1, NONE, NONE);
+        raise("p2,0,4;p0,0,60;t0,31,1;", 1, NONE, NONE);
         BoredKings x = Due.court("p3,1,9;p0,0,60;");
         x.pass(2);
         T.due("sleepy on day 2", x.raise(1, 0), 10);
