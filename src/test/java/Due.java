@@ -51,13 +51,16 @@ final class Due {
     /** All that calls change, by some 60 calls. */
     static String state(BoredKings kings) {
         StringBuilder all = new StringBuilder();
-        for (int what = 0; what <= 8; what++) {
+        int persons = kings.count(0);
+        int things = kings.count(1);
+        all.append(persons).append(' ').append(things).append(' ');
+        for (int what = 2; what <= 8; what++) {
             all.append(kings.count(what)).append(' ');
         }
-        for (int i = 0; i < kings.count(0); i++) {
+        for (int i = 0; i < persons; i++) {
             all.append('p').append(kings.person(i, 3)).append(' ').append(kings.person(i, 4)).append(' ');
         }
-        for (int k = 0; k < kings.count(1); k++) {
+        for (int k = 0; k < things; k++) {
             all.append('t').append(kings.thing(k, 0)).append(' ').append(kings.thing(k, 1)).append(' ')
                 .append(kings.thing(k, 2)).append(' ').append(kings.thing(k, 3)).append(' ');
         }
