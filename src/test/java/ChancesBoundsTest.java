@@ -14,6 +14,8 @@ public final class ChancesBoundsTest {
         forgottenAndSeenAgain();
         tastesOfThirtyTwo();
         tastesUpToTheLastDay();
+        tastesAsTheTextTells();
+        lastsAsThingsStand();
         lastsByDaysAndChance();
         lastsByTopics();
         lastsByStrength();
@@ -145,6 +147,39 @@ public final class ChancesBoundsTest {
         tastes(ahead, 0, 16, 2);
         ahead.seen(1, 59);
         tastes(ahead, 0, 0, NONE);
+    }
+
+    /** "counted from the first, as the TEXT tells, nothing done": interest 0 then, nothing hidden or arranged. */
+    private static void tastesAsTheTextTells() {
+        BoredKings x = Due.court("p0,1,9;p0,1,9;t0,1,8;t1,1,1;f1;");
+        x.pass(1);
+        x.arrange(1, 31, 9);
+        x.hide(1);
+        x.seen(0, 1);
+        x.seen(1, 2);
+        tastes(x, 0, 16, 1);
+        BoredKings least = Due.court("p0,1,9;p0,1,9;t0,1,9;f1;");
+        least.seen(1, 1);
+        tastes(least, 0, 16, 1);
+        BoredKings most = Due.court("p0,1,9;p0,1,9;t0,1,8;f1;");
+        most.seen(0, 1);
+        tastes(most, 0, 32, 0);
+    }
+
+    /** LASTS begins with the interest there is; the thing more is "behind all others" of its day. */
+    private static void lastsAsThingsStand() {
+        BoredKings x = Due.court("p0,1,9;t0,1,8;f2;");
+        x.pass(1);
+        T.due("8 by 2 and 5 are 9", x.lasts(1, 1, 5, 10, 0), 0);
+        T.due("8 by 2 and 4 are less", x.lasts(1, 1, 4, 10, 0), 1);
+        BoredKings curious = Due.court("p2,0,4;t0,1,9;t1,1,9;f9;");
+        T.due("no new topic", curious.lasts(2, 1, 9, 10, 0), 1);
+        T.due("a new topic", curious.lasts(1, 2, 9, 10, 0), 0);
+        curious.hide(0);
+        T.due("the only one is new", curious.lasts(1, 1, 9, 10, 0), 1);
+        BoredKings two = Due.court("p2,0,2;t0,1,9;");
+        two.hide(0);
+        T.due("the only one brings 2", two.lasts(1, 1, 9, 10, 0), 0);
     }
 
     /** "on each of the next n (0 to 6) DAYS", "by the chance of x (0 to 10) of ten", "in lowest terms" */

@@ -6,6 +6,7 @@ public final class DaysBoundsTest {
     public static void main(String[] args) {
         laidHasAPersonAtLeast();
         laidAtFirst();
+        laidAnewOutOfAll();
         interestIsPartedByFade();
         thingsOfTheDayAlone();
         plainByTopics();
@@ -64,6 +65,37 @@ public final class DaysBoundsTest {
             T.due("lay() of [" + text + "]", x.lay(), NO);
             T.due("persons are as laid at first", x.count(0), 4);
         }
+    }
+
+    /** Promise 5: "DAY 0, nothing HIDDEN, SEEN, UNDONE, KEPT", where all of these were full. */
+    private static void laidAnewOutOfAll() {
+        BoredKings x = Due.court("p0,1,60;p0,1,60;" + "t0,1,6;".repeat(9) + "f1;");
+        String was = Due.state(x);
+        for (int k = 8; k >= 0; k--) {
+            x.pass(1);
+            x.hide(k);
+        }
+        x.keep();
+        x.keep();
+        for (int n = 0; n < 8; n++) {
+            x.seen(1, 0);
+        }
+        T.due("interest", x.king(0, 1), 54);
+        int[] full = {2, 9, 9, 9, 8, 8, 2};
+        int[] empty = {2, 9, 0, 0, 0, 0, 0};
+        for (int what = 0; what < full.length; what++) {
+            T.due("count(" + what + ") ahead of lay()", x.count(what), full[what]);
+        }
+        T.due("lay()", x.lay(), 2);
+        for (int what = 0; what < empty.length; what++) {
+            T.due("count(" + what + ") behind lay()", x.count(what), empty[what]);
+        }
+        T.same("all as laid first", Due.state(x), was);
+        T.due("nothing can be undone", x.undo(), NO);
+        T.due("nothing is kept", x.back(), NO);
+        T.due("nothing is seen", x.tastes(0, 0), 32);
+        x.hide(0);
+        T.due("interest is 0 ahead of it", x.king(0, 1), 48);
     }
 
     /** "at first p0,3,6;p1,5,5;p2,12,9;p3,6,4;t0,1,3;t1,2,4;t2,7,2;t2,8,5;t4,4,6;t5,16,9;t7,3,3;f2;" */

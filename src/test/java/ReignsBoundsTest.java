@@ -14,6 +14,7 @@ public final class ReignsBoundsTest {
         keepByTheFewest();
         keepByTheLowest();
         keepByThoseNotHidden();
+        keepByInterest();
         raiseByTheNextTwentyDays();
         raiseByTopics();
         raiseByNoneMore();
@@ -91,6 +92,11 @@ public final class ReignsBoundsTest {
         BoredKings hidden = Due.court("p0,1,1;t0,1,1;");
         hidden.hide(0);
         T.due("bell() with all hidden", hidden.bell(), NONE);
+        BoredKings gone = Due.court("p0,1,9;t0,1,8;t1,1,5;f2;");
+        gone.pass(1);
+        T.due("bell() by 8 by 2 and 5", gone.bell(), 0);
+        gone.arrange(1, 1, 5);
+        T.due("away(1) by 8 by 2 and 5", gone.away(1), 0);
         T.due("bell() of two", Due.court("p0,1,1;t40,1,1;t39,1,1;").bell(), 39);
     }
 
@@ -157,6 +163,19 @@ public final class ReignsBoundsTest {
         T.due("all hidden", x.hides(1), 0);
     }
 
+    /** KEEP begins with the interest there is, which fades on the first of the days, too. */
+    private static void keepByInterest() {
+        BoredKings x = Due.court("p0,1,9;t0,1,8;t1,1,5;f2;");
+        x.pass(1);
+        T.due("8 by 2 and 5 are 9", x.hides(1), 2);
+        BoredKings less = Due.court("p0,1,10;t0,1,8;t1,1,5;f2;");
+        less.pass(1);
+        T.due("they are less than 10", less.hides(1), 0);
+        BoredKings sleepy = Due.court("p3,1,9;t1,1,9;t2,1,9;t3,1,9;t5,1,9;");
+        sleepy.pass(1);
+        T.due("on days 1 to 5 of a sleepy one", sleepy.hides(5), 5);
+    }
+
     private static void raise(String text, int i, int what, int day) {
         BoredKings x = Due.court(text);
         T.due("raise(" + i + ", 0) of " + text, x.raise(i, 0), what);
@@ -188,6 +207,9 @@ public final class ReignsBoundsTest {
         raise("p0,31,9;p0,0,60;", 1, 0, 1);
         raise("p0,31,10;p0,0,60;", 1, NONE, NONE);
         raise("p0,0,1;p0,0,60;", 1, NONE, NONE);
+        // a sixth topic would be new to somebody curious
+        raise("p2,0,4;p0,0,60;t0,31,1;", 1, NONE, NONE);
+        raise("p2,0,4;p0,0,60;t0,15,1;", 1, 4, 1);
     }
 
     /** "or none more, if he does as soon without", "(1000: none more)" */
@@ -304,6 +326,18 @@ public final class ReignsBoundsTest {
         BoredKings one = Due.court("p0,1,9;t0,1,8;t1,1,1;f1;");
         one.pass(1);
         T.due("one alone rings", one.order(1, -1), 1);
+        BoredKings fades = Due.court("p0,1,9;p0,1,9;t0,1,8;t1,1,5;f2;");
+        fades.pass(1);
+        T.due("what he brings fades once", fades.order(1, 0), 1);
+        BoredKings enough = Due.court("p0,1,10;p0,1,9;t0,1,8;t1,1,5;f2;");
+        enough.pass(1);
+        T.due("what he brings fades", enough.order(1, 0), 0);
+        BoredKings first = Due.court("p0,2,1;p0,1,2;t0,3,1;f1;");
+        T.due("1 is first with 0", first.order(1, 0), 1);
+        T.due("1 is first with 0", first.order(1, -1), 0);
+        BoredKings least = Due.court("p0,2,1;p0,1,1;t0,3,1;f1;");
+        T.due("1 is first with no less than 0", least.order(1, 0), 0);
+        T.due("1 is first with no less than 0", least.order(1, -1), 1);
     }
 
     /** "behind how many DAYS (41, where BELL is none)" */
