@@ -16,6 +16,7 @@ public final class ChancesBoundsTest {
         tastesUpToTheLastDay();
         tastesAsTheTextTells();
         lastsAsThingsStand();
+        lastsBehindAllOthers();
         lastsByDaysAndChance();
         lastsByTopics();
         lastsByStrength();
@@ -27,6 +28,7 @@ public final class ChancesBoundsTest {
         yearsByNumbersTold();
         yearsByDraws();
         yearsByTopicAndStrength();
+        yearsBehindAllOthers();
         keptTwoAtMost();
         keptLastComesFirst();
         backLeavesNothingToUndo();
@@ -54,6 +56,16 @@ public final class ChancesBoundsTest {
         }
         T.due("the eighth", x.seen(3, 0), 8);
         T.due("the eighth tells", x.tastes(0, 0), 0);
+        for (int told = 1; told <= 8; told++) {
+            BoredKings later = Due.court("p0,0,9;p0,0,60;t0,1,9;t59,2,9;");
+            for (int n = 1; n < told; n++) {
+                later.seen(0, 0);
+            }
+            T.due("seen(0, 60)", later.seen(0, 60), told);
+            tastes(later, 0, 8, 0);
+            T.due("of 32 without it", later.forget(), told);
+            tastes(later, 0, 32, 0);
+        }
     }
 
     /** "that a PERSON REIGNED on DAY d (0 to 60)" */
@@ -180,6 +192,24 @@ public final class ChancesBoundsTest {
         BoredKings two = Due.court("p2,0,2;t0,1,9;");
         two.hide(0);
         T.due("the only one brings 2", two.lasts(1, 1, 9, 10, 0), 0);
+    }
+
+    /** "one more THING (behind all others)": a topic that any of the day ahead of it has had is not new. */
+    private static void lastsBehindAllOthers() {
+        String[] twice = {"t0,1,1;t0,2,1;", "t0,2,1;t0,1,1;"};
+        for (String things : twice) {
+            BoredKings x = Due.court("p2,0,5;" + things);
+            for (int topics = 1; topics <= 31; topics++) {
+                T.due("lasts(1, " + topics + ", 1, 10, 0) by " + things, x.lasts(1, topics, 1, 10, 0), topics <= 3 ? 1 : 0);
+            }
+        }
+        BoredKings same = Due.court("p2,0,3;t0,1,1;t0,1,1;");
+        for (int topics = 1; topics <= 31; topics++) {
+            T.due("lasts(1, " + topics + ", 1, 10, 0) by 1 twice", same.lasts(1, topics, 1, 10, 0), topics == 1 ? 1 : 0);
+        }
+        BoredKings next = Due.court("p2,0,3;t0,1,1;t0,1,1;t1,2,1;t1,2,1;f9;");
+        T.due("by another day's topics", next.lasts(2, 1, 1, 10, 0), 0);
+        T.due("by those of the first day", next.lasts(1, 1, 1, 10, 0), 1);
     }
 
     /** "on each of the next n (0 to 6) DAYS", "by the chance of x (0 to 10) of ten", "in lowest terms" */
@@ -343,6 +373,21 @@ public final class ChancesBoundsTest {
             T.due("year " + z + " by more", Due.court("p0," + taste + "," + (s + 1) + ";").year(z, 1, 0), 0);
             T.due("year " + z + " by others", Due.court("p0," + (31 - taste) + ",1;").year(z, 1, 0), 0);
         }
+    }
+
+    /** "one more THING (behind all others)": by 2 its topic is 1, 4 strong, on the first day. */
+    private static void yearsBehindAllOthers() {
+        T.due("it is", draw(2, 0) % 3, 0);
+        T.due("its topic", draw(2, 0) / 4 % 5, 1);
+        T.due("its strength", draw(2, 0) / 32 % 9 + 1, 4);
+        String[] had = {"t0,2,1;t0,1,1;", "t0,1,1;t0,2,1;", "t0,3,1;t0,1,1;"};
+        int[] ahead = {4, 4, 2};
+        for (int i = 0; i < had.length; i++) {
+            T.due("not new by " + had[i], Due.court("p2,0," + (ahead[i] + 1) + ";" + had[i]).year(2, 1, 0), 0);
+            T.due("what is ahead by " + had[i], Due.court("p2,0," + ahead[i] + ";" + had[i]).year(2, 1, 0), 1);
+        }
+        T.due("new by 1 twice", Due.court("p2,0,4;t0,1,1;t0,1,1;").year(2, 1, 0), 1);
+        T.due("no more than 2 by it", Due.court("p2,0,5;t0,1,1;t0,1,1;").year(2, 1, 0), 0);
     }
 
     /** "KEPT are DAYS, the gallery, INTEREST, THINGS: 2 at most" */

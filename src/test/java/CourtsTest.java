@@ -5,6 +5,7 @@ public final class CourtsTest {
 
     public static void main(String[] args) {
         newObject();
+        twoObjects();
         write();
         wipe();
         faultOfGoodTexts();
@@ -47,6 +48,29 @@ public final class CourtsTest {
         T.due("NO", NO, -2);
         T.due("FULL", FULL, -3);
         T.due("NONE", NONE, -4);
+    }
+
+    /** What is done to one object does not show in another, made ahead of it or behind it. */
+    private static void twoObjects() {
+        Named first = new Named(new BoredKings());
+        Named other = new Named(new BoredKings());
+        first.lay("p1,31,60;p2,0,9;t0,31,9;t9,1,1;f9;");
+        other.ask("pass", 3);
+        first.ask("hide", 0);
+        first.ask("seen", 1, 0);
+        other.ask("hide", 4);
+        first.ask("keep");
+        first.ask("pass", 20);
+        other.ask("seen", 1, 3);
+        first.ask("order", 40, -1);
+        Named alone = new Named(new BoredKings());
+        alone.ask("pass", 3);
+        alone.ask("hide", 4);
+        alone.ask("seen", 1, 3);
+        T.same("an object beside another", other.spend(), alone.spend());
+        T.same("an object behind others", new Named(new BoredKings()).state(), "4 7 0 0 0 0 0 0 2 "
+            + "0 3 6 0 0 1 5 5 1 0 2 12 9 2 0 3 6 4 3 0 "
+            + "0 1 3 0 1 2 4 0 2 7 2 0 2 8 5 0 4 4 6 0 5 16 9 0 7 3 3 0 0 3 -4 ");
     }
 
     private static void write() {

@@ -18,6 +18,7 @@ public final class FaceTest {
     private static final String FACE = "arrange3 away1 back0 bell0 content1 count1 dull1 fault0 forget0 hide1 hides1 keep0 "
         + "king2 lasts5 lay0 order2 pass1 person2 raise2 seen2 tastes2 thing2 undo0 wipe0 write1 year3";
     private static final Path SOURCE = Path.of("src/main/java/BoredKings.java");
+    private static final List<Class<?>> STATIC_TYPES = List.of(int.class, long.class, boolean.class, char.class, String.class);
 
     public static void main(String[] args) throws IOException {
         face();
@@ -73,12 +74,16 @@ public final class FaceTest {
         List<Class<?>> all = new ArrayList<>(Arrays.asList(inside));
         all.add(BoredKings.class);
         for (Class<?> one : all) {
-            T.due(one + " is static", one == BoredKings.class || Modifier.isStatic(one.getModifiers()) ? 1 : 0, 1);
+            boolean isInside = one != BoredKings.class;
+            T.due(one + " is static", !isInside || Modifier.isStatic(one.getModifiers()) ? 1 : 0, 1);
+            boolean isOpen = Modifier.isPublic(one.getModifiers()) || Modifier.isProtected(one.getModifiers());
+            T.due(one + " is inside and seen from outside", isInside && isOpen ? 1 : 0, 0);
             int fields = 0;
             for (Field field : one.getDeclaredFields()) {
                 boolean isStatic = Modifier.isStatic(field.getModifiers());
                 fields += isStatic ? 0 : 1;
                 T.due(field + " is final", !isStatic || Modifier.isFinal(field.getModifiers()) ? 1 : 0, 1);
+                T.due(field + " may be static", !isStatic || STATIC_TYPES.contains(field.getType()) ? 1 : 0, 1);
             }
             T.due("fields of " + one + " are 20 at most", fields <= 20 ? 1 : 0, 1);
             for (Method method : one.getDeclaredMethods()) {

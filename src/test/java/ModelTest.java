@@ -9,6 +9,8 @@ import java.util.Random;
 public final class ModelTest {
     private static final Due T = new Due("ModelTest");
     private static final int RUNS = 2500;
+    /** Of so many runs one uses its object for all the calls that it may be used for. */
+    private static final int LONG_ONES = 50;
     private static final int MOST_CALLS = 512;
     /** Of each call's numbers the least and the greatest that are told. */
     private static final String[] CALLS = {
@@ -34,21 +36,43 @@ public final class ModelTest {
 
     public static void main(String[] args) throws ReflectiveOperationException {
         for (int run = 0; run < RUNS; run++) {
-            new ModelTest(run).run();
+            new ModelTest(run).run(run % LONG_ONES == 0);
         }
         T.end();
     }
 
-    private void run() throws ReflectiveOperationException {
+    private void run(boolean isLong) throws ReflectiveOperationException {
         if (random.nextInt(8) > 0) {
             writeText(drawText());
             ask("fault");
             ask("lay");
         }
-        int most = calls + 20 + random.nextInt(40);
-        while (calls < Math.min(most, MOST_CALLS) && !wrong) {
+        int most = isLong ? MOST_CALLS : calls + 20 + random.nextInt(40);
+        while (calls < most && !wrong) {
             drawCall();
         }
+        if (!isLong) {
+            askAll();
+        }
+    }
+
+    /** How all stands, since drawn calls seldom ask for just what went wrong: some 80 calls. */
+    private void askAll() throws ReflectiveOperationException {
+        for (int what = 0; what <= 8; what++) {
+            ask("count", what);
+        }
+        for (int i = 0; i < plain.count(0); i++) {
+            for (int what = 0; what <= 4; what++) {
+                ask("person", i, what);
+            }
+        }
+        for (int k = 0; k < plain.count(1); k++) {
+            for (int what = 0; what <= 3; what++) {
+                ask("thing", k, what);
+            }
+        }
+        ask("king", 0, 0);
+        ask("king", 0, 1);
     }
 
     private int between(int least, int most) {
@@ -59,9 +83,10 @@ public final class ModelTest {
         StringBuilder text = new StringBuilder();
         int persons = between(1, 6);
         int things = between(0, 9);
-        int lastDay = random.nextInt(3) == 0 ? 60 : between(0, 12);
+        // many things on few days, and persons who stand little, so that much goes on
+        int lastDay = new int[] {60, between(0, 12), between(0, 2)}[random.nextInt(3)];
         int topics = random.nextInt(3) == 0 ? 3 : 31;
-        int stands = random.nextInt(4) == 0 ? 60 : 12;
+        int stands = new int[] {60, 12, 12, 4}[random.nextInt(4)];
         for (int i = 0; i < persons; i++) {
             text.append('p').append(between(0, 3)).append(',').append(between(0, 31)).append(',')
                 .append(between(1, stands)).append(';');

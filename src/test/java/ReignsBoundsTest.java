@@ -10,6 +10,7 @@ public final class ReignsBoundsTest {
         kingWhatIsZeroOrOne();
         bellFortyAtMost();
         reignedOnDaysGoneBy();
+        reignedOfEachPerson();
         keepForOneToForty();
         keepByTheFewest();
         keepByTheLowest();
@@ -17,6 +18,7 @@ public final class ReignsBoundsTest {
         keepByInterest();
         raiseByTheNextTwentyDays();
         raiseByTopics();
+        raiseBehindAllOthers();
         raiseByNoneMore();
         raiseUpToDayForty();
         raiseByTheLeast();
@@ -111,6 +113,29 @@ public final class ReignsBoundsTest {
             x.pass(1);
         }
         T.due("reigned up to the last", onDay("p0,1,1;", 999).person(0, 4), 999);
+    }
+
+    /** REIGNED of each of one to six persons, who reign a day each; undone and kept days take theirs along. */
+    private static void reignedOfEachPerson() {
+        for (int persons = 1; persons <= 6; persons++) {
+            BoredKings x = Due.court("p0,1,1;".repeat(persons) + "t0,1,1;t1,1,1;t2,1,1;t3,1,1;t4,1,1;t5,1,1;");
+            T.due("pass to the last one's day", x.pass(persons), persons);
+            reigned(x, persons, 1);
+            x.keep();
+            x.undo();
+            reigned(x, persons, 0);
+            x.back();
+            reigned(x, persons, 1);
+            x.pass(20);
+            x.undo();
+            reigned(x, persons, 1);
+        }
+    }
+
+    private static void reigned(BoredKings x, int persons, int days) {
+        for (int i = 0; i < persons; i++) {
+            T.due("reigned of " + i + " of " + persons, x.person(i, 4), days);
+        }
     }
 
     /** "KEEP for n (1 to 40) DAYS" */
@@ -210,6 +235,21 @@ public final class ReignsBoundsTest {
         // a sixth topic would be new to somebody curious
         raise("p2,0,4;p0,0,60;t0,31,1;", 1, NONE, NONE);
         raise("p2,0,4;p0,0,60;t0,15,1;", 1, 4, 1);
+    }
+
+    /** The thing more is one of the day as all others: to a curious one its topic is new or not by each of them. */
+    private static void raiseBehindAllOthers() {
+        raise("p2,0,5;p0,0,60;t0,1,1;t0,2,1;", 1, 2, 1);
+        raise("p2,0,5;p0,0,60;t0,2,1;t0,1,1;", 1, 2, 1);
+        raise("p2,0,5;p0,0,60;t0,15,1;t0,16,1;f9;", 1, NONE, NONE);
+        raise("p2,0,5;p0,0,60;t0,16,1;t0,15,1;f9;", 1, NONE, NONE);
+        raise("p2,0,3;p0,0,60;t0,1,1;t0,1,1;f9;", 1, 1, 1);
+        BoredKings hidden = Due.court("p2,0,3;p0,0,60;t0,2,1;t0,1,1;f9;");
+        hidden.hide(1);
+        T.due("by those not hidden", hidden.raise(1, 0), 0);
+        BoredKings nine = Due.court("p2,0,5;p0,0,60;" + "t0,1,1;".repeat(8) + "t0,2,1;f9;");
+        T.due("as a tenth", nine.raise(1, 0), 2);
+        T.due("as a tenth", nine.raise(1, 1), 1);
     }
 
     /** "or none more, if he does as soon without", "(1000: none more)" */
