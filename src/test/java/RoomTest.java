@@ -42,9 +42,9 @@ public final class RoomTest {
         return x;
     }
 
-    /** Each call once or more, the dearest with the most that they take. */
+    /** Each call but wipe(), by which the next round would have no text to lay; the dearest with the most that they take. */
     private static int askAll(BoredKings x) {
-        int sum = x.wipe() + x.write('p') + x.fault() + x.lay();
+        int sum = x.write(31) + x.fault() + x.lay();
         sum += x.person(0, 4) + x.thing(0, 3) + x.pass(1) + x.hide(0) + x.arrange(900, 31, 9) + x.pass(20) + x.undo();
         sum += x.king(40, 1) + x.bell() + x.hides(40) + x.raise(5, 0) + x.order(40, -1) + x.away(1);
         sum += x.seen(1, 60) + x.tastes(0, 1) + x.forget() + x.lasts(6, 31, 9, 5, 0) + x.content(40) + x.dull(1);
@@ -61,13 +61,12 @@ public final class RoomTest {
         for (int i = 0; i < KEPT_READY; i++) {
             ready[i] = used();
         }
-        long self = Thread.currentThread().getId();
         long sum = 0;
-        long before = bean.getThreadAllocatedBytes(self);
+        long before = bean.getCurrentThreadAllocatedBytes();
         for (int round = 0; round < ROUNDS * KEPT_READY; round++) {
             sum += askAll(ready[round % KEPT_READY]);
         }
-        long bytes = bean.getThreadAllocatedBytes(self) - before;
+        long bytes = bean.getCurrentThreadAllocatedBytes() - before;
         T.due("bytes " + bytes + " are few, sum " + sum, bytes < (long) ROUNDS * KEPT_READY * BYTES ? 1 : 0, 1);
     }
 
